@@ -234,7 +234,7 @@ public final class RowBank {
     }
 
     private void carryOut(int command, int bank, Ask ask) {
-        past.record(command, bank, tick);
+        past.remember(command, bank, tick);
         commands++;
         commandLog.add(command, bank, ask, tick);
         if (command == REFRESH) {
@@ -533,7 +533,7 @@ public final class RowBank {
             return 5 + asker;
         }
 
-        /** READ or WRITE. */
+        /** The COMMAND by which it is done. */
         int doneBy() {
             return WRITE;
         }
@@ -683,7 +683,10 @@ public final class RowBank {
         int came = 0;
         int waiting = 0;
         int fencesWaiting = 0;
-        /** READS and WRITES that went in all, and how many of them before the oldest ASK became that. */
+        /**
+         * READS and WRITES that went in all, and how many of them before the oldest ASK became that: up
+         * to the one that did the oldest before it, as none goes while no ASK waits.
+         */
         private int columns = 0;
         private int columnsBefore = 0;
 
@@ -694,8 +697,6 @@ public final class RowBank {
             }
             if (ask.isFence()) {
                 fencesWaiting++;
-            } else if (waiting == fencesWaiting) {
-                columnsBefore = columns;
             }
             Ask last = newest;
             if (last == null) {
@@ -912,6 +913,8 @@ public final class RowBank {
      */
     private static final class Past {
         private final int[] opens = new int[BANKS];
+        /** By BANK, the latest OPEN of another one. */
+        private final int[] opensBeside = new int[BANKS];
         private final int[] shuts = new int[BANKS];
         private final int[] reads = new int[BANKS];
         private final int[] writes = new int[BANKS];
@@ -929,6 +932,7 @@ public final class RowBank {
 
         private void forget() {
             Arrays.fill(opens, LONG_AGO);
+            Arrays.fill(opensBeside, LONG_AGO);
             Arrays.fill(shuts, LONG_AGO);
             Arrays.fill(reads, LONG_AGO);
             Arrays.fill(writes, LONG_AGO);
@@ -941,12 +945,10 @@ public final class RowBank {
             refreshed = LONG_AGO;
         }
 
-        void record(int command, int bank, int tick) {
+        void remember(int command, int bank, int tick) {
             switch (command) {
                 case OPEN:
-                    opens[bank] = tick;
-                    fourOpens[opensInAll % 4] = tick;
-                    opensInAll++;
+                    rememberOpen(bank, tick);
                     break;
                 case SHUT:
                     shuts[bank] = tick;
@@ -965,6 +967,17 @@ public final class RowBank {
                 default:
                     refreshed = tick;
             }
+        }
+
+        private void rememberOpen(int bank, int tick) {
+            opens[bank] = tick;
+            for (int other = 0; other < BANKS; other++) {
+                if (other != bank) {
+                    opensBeside[other] = tick;
+                }
+            }
+            fourOpens[opensInAll % 4] = tick;
+            opensInAll++;
         }
 
         /** The least tick at which all RULES let a COMMAND go. */
@@ -999,22 +1012,12 @@ public final class RowBank {
                 case 6: return column ? columnsOfGroups[1 - bank / 2] : LONG_AGO;
                 case 7: return command == WRITE ? anyRead : LONG_AGO;
                 case 8: return command == READ ? anyWrite : LONG_AGO;
-                case 9: return command == OPEN ? latestOpenBeside(bank) : LONG_AGO;
+                case 9: return command == OPEN ? opensBeside[bank] : LONG_AGO;
                 case 10: return command == OPEN ? fourOpens[opensInAll % 4] : LONG_AGO;
                 case 11: return refreshed;
                 case 12: return command == REFRESH ? anyShut : LONG_AGO;
                 default: return LONG_AGO;
             }
-        }
-
-        private int latestOpenBeside(int bank) {
-            int latest = LONG_AGO;
-            for (int other = 0; other < BANKS; other++) {
-                if (other != bank) {
-                    latest = Math.max(latest, opens[other]);
-                }
-            }
-            return latest;
         }
     }
 
@@ -1067,7 +1070,7 @@ public final class RowBank {
                     faultyRule = rule;
                     return i;
                 }
-                checked.record(which[i], banks[i], forged[i]);
+                checked.remember(which[i], banks[i], forged[i]);
             }
             faultyRule = NONE;
             return NONE;

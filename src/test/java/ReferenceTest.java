@@ -2,14 +2,13 @@ import java.util.Random;
 
 /** Runs of at most 512 calls, made from fixed seeds: RowBank has to answer as Reference does. */
 public final class ReferenceTest {
-    private static final int RUNS = 1500;
+    private static final int RUNS = 500;
     private static final int CALLS = 512;
 
     private final Random random;
     private final RowBank bank = new RowBank();
     private final Reference reference = new Reference();
     private final int flavour;
-    private int lastAsked = 0;
     private String call = "";
 
     private ReferenceTest(int seed) {
@@ -117,9 +116,9 @@ public final class ReferenceTest {
         switch (r) {
             case 0: case 1: return told("next", bank.next(), reference.next());
             case 2: case 3: case 4: {
-                lastAsked = random.nextBoolean() ? within(0, reference.reqs.size()) : reference.reqs.size() - 1 - random.nextInt(13);
+                int ask = random.nextBoolean() ? within(0, reference.reqs.size()) : reference.reqs.size() - 1 - random.nextInt(13);
                 int what = within(0, 6);
-                return told("look " + lastAsked + " " + what, bank.look(lastAsked, what), reference.look(lastAsked, what));
+                return told("look " + ask + " " + what, bank.look(ask, what), reference.look(ask, what));
             }
             case 5: case 6: return told("at " + i, bank.at(i), reference.at(i));
             case 7: case 8: {
