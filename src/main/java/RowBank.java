@@ -556,7 +556,7 @@ public final class RowBank {
 
         /** Whether the two could not change places without a trace. */
         boolean clashesWith(Ask other) {
-            return !isFence() && address == other.address
+            return address != NONE && address == other.address
                 && (kind() != KIND_ASK || other.kind() != KIND_ASK);
         }
     }

@@ -1,14 +1,50 @@
+import java.io.IOException;
+import java.nio.file.Files;
+import java.nio.file.Path;
+
 /** Counts and prints the answers that are not as due. */
 final class Checks {
+    private static final Path DOCUMENT = Path.of("../shared/DOC.md");
+
     private int wrong = 0;
     private int asked = 0;
+    private String document = null;
+    private String quoted = "";
+
+    /** The document's own words that the next checks are about: so a test says which sentence was broken. */
+    void words(String words) {
+        quoted = words;
+        if (document == null) document = readDocument();
+        if (!document.isEmpty()) due("the document says so", document.contains(words) ? 1 : 0, 1);
+    }
+
+    /** Nothing, if it isn't there: the answers can be looked at without it. */
+    private static String readDocument() {
+        try {
+            return Files.readString(DOCUMENT).replaceAll("\\s+", " ");
+        } catch (IOException unread) {
+            System.out.println("quotes are not looked up: no " + DOCUMENT);
+            return "";
+        }
+    }
 
     void due(String call, long got, long want) {
         asked++;
         if (got != want) {
             wrong++;
-            System.out.println(call + " answered " + got + ", due is " + want);
+            System.out.println(call + " answered " + told(got) + ", due is " + told(want)
+                + (quoted.isEmpty() ? "" : " (" + quoted + ")"));
         }
+    }
+
+    void holds(String what, boolean is) {
+        due(what, is ? 1 : 0, 1);
+    }
+
+    private static String told(long answer) {
+        if (answer == NO_ARGUMENT) return "throws.IllegalArgumentException";
+        if (answer == NO_STATE) return "throws.IllegalStateException";
+        return Long.toString(answer);
     }
 
     void end(String name) {

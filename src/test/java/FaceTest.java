@@ -19,7 +19,7 @@ public final class FaceTest {
     private static final Checks CHECKS = new Checks();
 
     private static void holds(String what, boolean is) {
-        CHECKS.due(what, is ? 1 : 0, 1);
+        CHECKS.holds(what, is);
     }
 
     public static void main(String[] args) throws ReflectiveOperationException {

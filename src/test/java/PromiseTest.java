@@ -1,6 +1,5 @@
 /** One method a promise, with answers worked out by hand from the document. */
 public final class PromiseTest {
-    private static final int[] FIRST_TIMES = {3, 8, 3, 2, 4, 4, 2, 5, 6, 2, 12, 10, 3};
     private static final Checks CHECKS = new Checks();
 
     private static void due(String call, long got, long want) {
@@ -44,12 +43,6 @@ public final class PromiseTest {
         CHECKS.end("PromiseTest");
     }
 
-    private static RowBank quick() {
-        RowBank x = new RowBank();
-        for (int rule = 0; rule <= 12; rule++) x.time(rule, 1);
-        return x;
-    }
-
     private static void promise1() {
         RowBank x = new RowBank();
         due("1 tick", x.count(0), 1);
@@ -80,7 +73,7 @@ public final class PromiseTest {
     private static void promise2() {
         RowBank x = new RowBank();
         for (int rule = 0; rule <= 12; rule++) {
-            due("2 time " + rule, x.time(rule, 1), FIRST_TIMES[rule]);
+            due("2 time " + rule, x.time(rule, 1), Scenes.FIRST_TIMES[rule]);
             due("2 again " + rule, x.time(rule, 30), 1);
             due("2 too little " + rule, x.time(rule, 0), -1);
             due("2 too much " + rule, x.time(rule, 31), -1);
@@ -98,7 +91,7 @@ public final class PromiseTest {
 
     /** OPEN 0 at 1, READ 0 at 2, WRITE 0 at 3, SHUT 0 at 4, then OPEN and READ of 0, 1, 2, 3 from 5 to 12. */
     private static RowBank busy() {
-        RowBank x = quick();
+        RowBank x = Scenes.quick();
         x.ask(0, 0);
         x.run(2);
         x.write(0, 1, 9);
@@ -220,7 +213,7 @@ public final class PromiseTest {
     }
 
     private static void promise4Limit() {
-        RowBank x = quick();
+        RowBank x = Scenes.quick();
         x.order(1, 2);
         x.ask(0, 0);
         x.run(1);
@@ -248,7 +241,7 @@ public final class PromiseTest {
     /** What went before an ASK came counts nothing, when none but FENCES waited then. */
     private static void promise4LimitAnew() {
         for (int fences = 0; fences < 2; fences++) {
-            RowBank x = quick();
+            RowBank x = Scenes.quick();
             x.order(1, 1);
             x.ask(0, 0);
             x.ask(0, 1);
@@ -267,7 +260,7 @@ public final class PromiseTest {
 
     /** SHUT and OPEN are for the first of a BANK alone, READ and WRITE for all. */
     private static void promise4Next() {
-        RowBank x = quick();
+        RowBank x = Scenes.quick();
         x.time(1, 30);
         x.ask(0, 0);
         x.drain(500);
@@ -282,7 +275,7 @@ public final class PromiseTest {
         x.run(1);
         due("4 WRITE of the third", x.look(3, 4), 4);
         due("4 SHUT can't go", x.next(), -2);
-        RowBank y = quick();
+        RowBank y = Scenes.quick();
         y.time(0, 30);
         y.ask(0, 0);
         y.ask(0, 256);
@@ -292,7 +285,7 @@ public final class PromiseTest {
         due("4 no SHUT ahead of the first", y.next(), -2);
         y.run(28);
         due("4 READ first", y.next(), 2);
-        RowBank z = quick();
+        RowBank z = Scenes.quick();
         z.write(0, 0, 1);
         z.fence(1);
         z.ask(1, 256);
@@ -307,7 +300,7 @@ public final class PromiseTest {
     }
 
     private static void promise4Shares() {
-        RowBank x = quick();
+        RowBank x = Scenes.quick();
         x.order(2, 20);
         x.ask(0, 0);
         x.ask(1, 0);
@@ -392,7 +385,7 @@ public final class PromiseTest {
     }
 
     private static void promises5To9FourHundred() {
-        RowBank x = quick();
+        RowBank x = Scenes.quick();
         int came = 0;
         while (came < 400) {
             for (int i = 0; i < 12 && came < 400; i++) {
@@ -494,7 +487,7 @@ public final class PromiseTest {
         due("12 and holds", y.look(1, 6), 1);
         y.refresh(20, 2);
         due("12 an ask waits", y.next(), 0);
-        RowBank z = quick();
+        RowBank z = Scenes.quick();
         z.ask(0, 0);
         z.fence(0);
         z.ask(0, 16);
@@ -573,7 +566,7 @@ public final class PromiseTest {
     }
 
     private static void fourOpens() {
-        RowBank x = quick();
+        RowBank x = Scenes.quick();
         x.time(10, 12);
         for (int bank = 0; bank < 4; bank++) x.ask(0, 16 * bank);
         x.time(0, 30);
@@ -621,7 +614,7 @@ public final class PromiseTest {
     }
 
     private static void promise18FourHundred() {
-        RowBank x = quick();
+        RowBank x = Scenes.quick();
         for (int round = 0; round < 12; round++) {
             for (int i = 0; i < 12; i++) x.ask(0, i % 2 * 256);
             x.drain(500);
@@ -695,7 +688,7 @@ public final class PromiseTest {
     }
 
     private static void checkFourthOpen() {
-        RowBank x = quick();
+        RowBank x = Scenes.quick();
         for (int i = 0; i < 5; i++) x.ask(0, 16 * (i % 4) + i / 4 * 256);
         x.drain(500);
         due("20 fine", x.check(), -2);
@@ -782,7 +775,7 @@ public final class PromiseTest {
         x.drain(500);
         due("25 as it was", Checks.elementOf(x, 0, 15), 127);
         due("25 times", x.keep(1, 4, Integer.MIN_VALUE), 0);
-        for (int i = 0; i < 13; i++) due("25 time " + i, Checks.elementOf(x, 1, i), FIRST_TIMES[i]);
+        for (int i = 0; i < 13; i++) due("25 time " + i, Checks.elementOf(x, 1, i), Scenes.FIRST_TIMES[i]);
         x.time(0, 30);
         due("25 time as it was", Checks.elementOf(x, 1, 0), 3);
         due("25 greatest", x.keep(2, 3, 63), 0);

@@ -4,6 +4,8 @@ import java.util.function.ToLongFunction;
 public final class RefusalTest {
     private static final Checks CHECKS = new Checks();
     private static final int[] FAR = {Integer.MIN_VALUE, Integer.MAX_VALUE};
+    /** A BANK that has a ROW OPEN in the middle of things. */
+    private static final int OPENED = 1;
 
     public static void main(String[] args) {
         settings();
@@ -30,7 +32,7 @@ public final class RefusalTest {
         x.fence(1);
         x.ask(1, 256);
         x.fence(1);
-        while (full && x.ask(0, 5) >= 0) continue;
+        for (int i = 0; full && i < 12; i++) x.ask(0, 5);
         x.forge(1, 3);
         x.check();
         x.keep(0, 1, 0);
@@ -60,6 +62,8 @@ public final class RefusalTest {
         counts(s, x);
         for (int i = 0; i < 40; i++) s.append(' ').append(x.log(i, 0)).append(' ').append(x.log(i, 4));
         for (int i = 0; i < 13; i++) s.append(' ').append(x.look(i, 5)).append(' ').append(x.forge(0, 1));
+        x.keep(6, 4, 0);
+        for (int i = 0; i < 13; i++) s.append(' ').append(Checks.elementOf(x, 6, i));
         return s.append(' ').append(x.fence(0)).toString();
     }
 
@@ -84,19 +88,27 @@ public final class RefusalTest {
     }
 
     private static void settings() {
-        refused("time of rule -1", -1, x -> x.time(-1, 5));
-        refused("time of rule 13", -1, x -> x.time(13, 5));
-        refused("time 0", -1, x -> x.time(4, 0));
-        refused("time 31", -1, x -> x.time(4, 31));
-        refused("refresh every 19", -1, x -> x.refresh(19, 1));
-        refused("refresh every 401", -1, x -> x.refresh(401, 1));
-        refused("refresh every -1", -1, x -> x.refresh(-1, 1));
-        refused("refresh due 0", -1, x -> x.refresh(0, 0));
-        refused("refresh due 9", -1, x -> x.refresh(50, 9));
-        refused("order -1", -1, x -> x.order(-1, 4));
-        refused("order 3", -1, x -> x.order(3, 4));
-        refused("order, limit 0", -1, x -> x.order(0, 0));
-        refused("order, limit 21", -1, x -> x.order(2, 21));
+        for (int wrong : new int[] {-1, 13, FAR[0], FAR[1]}) refused("time of rule " + wrong, -1, x -> x.time(wrong, 5));
+        for (int wrong : new int[] {-1, 0, 31, FAR[0], FAR[1]}) {
+            for (int rule = 0; rule <= 12; rule += 4) {
+                int r = rule;
+                refused("time " + wrong + " of " + rule, -1, x -> x.time(r, wrong));
+            }
+        }
+        for (int wrong : new int[] {-20, -1, 1, 19, 401, FAR[0], FAR[1]}) {
+            refused("refresh every " + wrong, -1, x -> x.refresh(wrong, 1));
+        }
+        for (int wrong : new int[] {-1, 0, 9, FAR[0], FAR[1]}) {
+            refused("refresh never, due " + wrong, -1, x -> x.refresh(0, wrong));
+            refused("refresh due " + wrong, -1, x -> x.refresh(50, wrong));
+        }
+        for (int wrong : new int[] {-1, 3, FAR[0], FAR[1]}) refused("order " + wrong, -1, x -> x.order(wrong, 1));
+        for (int wrong : new int[] {-1, 0, 21, FAR[0], FAR[1]}) {
+            for (int order = 0; order <= 2; order++) {
+                int o = order;
+                refused("order " + order + ", limit " + wrong, -1, x -> x.order(o, wrong));
+            }
+        }
     }
 
     private static void asks() {
@@ -131,22 +143,44 @@ public final class RefusalTest {
             refused("run " + wrong, -1, x -> x.run(wrong));
             refused("drain " + wrong, -1, x -> x.drain(wrong));
         }
-        for (int wrong : new int[] {-1, 400, FAR[0], FAR[1]}) {
-            refused("look at " + wrong, -1, x -> x.look(wrong, 0));
-            refused("look for " + wrong, -1, x -> x.look(0, wrong));
-            refused("soonest of " + wrong, -1, x -> x.soonest(wrong, 0));
-            refused("soonest of bank " + wrong, -1, x -> x.soonest(0, wrong));
-            refused("row of " + wrong, -1, x -> x.row(wrong));
-            refused("log of " + wrong, -1, x -> x.log(wrong, 0));
-            refused("log for " + wrong, -1, x -> x.log(0, wrong));
-            refused("worst of " + wrong, -1, x -> x.worst(wrong));
-            refused("count of " + wrong, -1, x -> x.count(wrong));
-            refused("forge of " + wrong, -1, x -> x.forge(wrong, 5));
-            refused("forge at " + wrong, -1, x -> x.forge(0, wrong > 0 ? wrong + 999601 : wrong));
+        for (int wrong : new int[] {-1, 400, FAR[0], FAR[1]}) refused("look at " + wrong, -1, x -> x.look(wrong, 0));
+        for (boolean full : new boolean[] {false, true}) {
+            int came = middle(full).count(1);
+            refused("look at the one to come", -1, full, x -> x.look(came, 0));
+            refused("keep the one to come", -1, full, x -> x.keep(2, 1, came));
         }
-        refused("forge at 0", -1, x -> x.forge(0, 0));
-        refused("at below 0", -1, x -> x.at(-1));
-        refused("at too far", -2, x -> x.at(12));
+        for (int wrong : new int[] {-1, 7, FAR[0], FAR[1]}) refused("look for " + wrong, -1, x -> x.look(0, wrong));
+        for (int wrong : new int[] {-1, 5, FAR[0], FAR[1]}) refused("soonest of " + wrong, -1, x -> x.soonest(wrong, 0));
+        for (int wrong : new int[] {-1, 4, FAR[0], FAR[1]}) {
+            for (int command = 0; command <= 3; command++) {
+                int c = command;
+                refused("soonest of " + command + ", bank " + wrong, -1, x -> x.soonest(c, wrong));
+            }
+            refused("row of " + wrong, -1, x -> x.row(wrong));
+            refused("worst of " + wrong, -1, x -> x.worst(wrong));
+        }
+        for (int wrong : new int[] {-1, 1024, FAR[0], FAR[1]}) refused("octet of " + wrong, -1, x -> x.octet(wrong));
+        for (int wrong : new int[] {-1, 12, FAR[0], FAR[1]}) refused("count of " + wrong, -1, x -> x.count(wrong));
+        logged();
+        refused("at -1", -1, x -> x.at(-1));
+        refused("at far below", -1, x -> x.at(FAR[0]));
+        refused("at 12", -2, x -> x.at(12));
+        refused("at far beyond", -2, x -> x.at(FAR[1]));
+        refused("soonest of OPEN where one is", -2, x -> x.soonest(0, OPENED));
+        refused("soonest of REFRESH", -2, x -> x.soonest(4, 0));
+    }
+
+    private static void logged() {
+        int size = middle(false).count(6);
+        for (int wrong : new int[] {-1, size, 400, FAR[0], FAR[1]}) {
+            refused("log of " + wrong, -1, x -> x.log(wrong, 0));
+            refused("forge of " + wrong, -1, x -> x.forge(wrong, 5));
+        }
+        for (int wrong : new int[] {-1, 5, FAR[0], FAR[1]}) refused("log for " + wrong, -1, x -> x.log(0, wrong));
+        for (int wrong : new int[] {-1, 0, 1000001, FAR[0], FAR[1]}) {
+            refused("forge at " + wrong, -1, x -> x.forge(0, wrong));
+            refused("forge of the last at " + wrong, -1, x -> x.forge(size - 1, wrong));
+        }
     }
 
     private static void shelves() {
@@ -163,22 +197,40 @@ public final class RefusalTest {
             refused("keep what " + wrong, -1, x -> x.keep(0, wrong, 0));
             refused("make what " + wrong, -1, x -> x.make(2, wrong, 1));
         }
-        refused("keep ask -1", -1, x -> x.keep(2, 1, -1));
-        refused("keep ask 12", -1, x -> x.keep(2, 1, 399));
-        refused("keep row -1", -1, x -> x.keep(0, 3, -1));
-        refused("keep row 64", -1, x -> x.keep(0, 3, 64));
-        refused("make 61", -1, x -> x.make(2, 3, 61));
-        refused("make -1", -14, x -> x.make(2, 3, -1));
+        for (int wrong : new int[] {-1, 400, FAR[0], FAR[1]}) refused("keep ask " + wrong, -1, x -> x.keep(2, 1, wrong));
+        for (int wrong : new int[] {-1, 64, FAR[0], FAR[1]}) refused("keep row " + wrong, -1, x -> x.keep(0, 3, wrong));
+        for (int what = 3; what <= 4; what++) {
+            int w = what;
+            for (int wrong : new int[] {61, FAR[1]}) refused("make " + wrong, -1, x -> x.make(2, w, wrong));
+            for (int wrong : new int[] {-1, FAR[0]}) refused("make " + wrong, -14, x -> x.make(2, w, wrong));
+        }
+        refused("weight of nothing", -11, x -> x.weight(7));
+        refused("weight of bytes", -12, x -> x.weight(2));
+        refused("weight of ints", -12, x -> x.weight(3));
+        refused("toss of nothing", -11, x -> x.toss(7));
+        refused("toss of bytes", -12, x -> x.toss(2));
+        refused("toss of ints", -12, x -> x.toss(3));
+        refused("toss of a plain ask", -15, x -> x.toss(5));
+        refused("element of nothing", Checks.NO_STATE, x -> Checks.elementOf(x, 7, 0));
+        refused("element of an ask", Checks.NO_STATE, x -> Checks.elementOf(x, 0, 0));
+        for (int wrong : new int[] {-1, 13, FAR[0], FAR[1]}) {
+            refused("element " + wrong, Checks.NO_STATE, x -> Checks.elementOf(x, 3, wrong));
+        }
+        copies();
+    }
+
+    private static void copies() {
         refused("copy from nothing", -11, x -> x.copy(7, 0, 4, 0, 1));
         refused("copy to nothing", -11, x -> x.copy(4, 0, 7, 0, 1));
         refused("copy from an ask to nothing", -11, x -> x.copy(0, 0, 7, 0, 1));
+        refused("copy from an ask", -12, x -> x.copy(0, 0, 4, 0, 1));
         refused("copy to an ask", -12, x -> x.copy(4, 0, 0, 0, -1));
         refused("copy bytes to ints", -12, x -> x.copy(2, 0, 4, 0, 1));
-        refused("copy beyond", -13, x -> x.copy(3, 12, 4, 0, 2));
-        refused("weight of nothing", -11, x -> x.weight(7));
-        refused("toss of nothing", -11, x -> x.toss(7));
-        refused("toss of a row", -12, x -> x.toss(2));
-        refused("toss of a plain ask", -15, x -> x.toss(5));
-        refused("element of an ask", Checks.NO_STATE, x -> Checks.elementOf(x, 0, 0));
+        refused("copy ints to bytes", -12, x -> x.copy(4, 0, 2, 0, 1));
+        int[][] beyond = {{12, 0, 2}, {13, 0, 1}, {14, 0, 0}, {0, 19, 2}, {0, 20, 1}, {0, 21, 0}, {0, 0, 14}, {-1, 0, 1}, {0, -1, 1},
+            {0, 0, -1}, {0, 0, FAR[1]}, {FAR[1], 0, FAR[1]}, {0, FAR[1], FAR[1]}, {FAR[0], FAR[0], FAR[0]}};
+        for (int[] b : beyond) {
+            refused("copy " + b[0] + " " + b[1] + " " + b[2], -13, x -> x.copy(3, b[0], 4, b[1], b[2]));
+        }
     }
 }
