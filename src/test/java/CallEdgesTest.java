@@ -93,7 +93,10 @@ public final class CallEdgesTest {
         due("every 0", new RowBank().refresh(0, 1), 0);
         for (int every = 1; every < 20; every++) due("every " + every, new RowBank().refresh(every, 1), -1);
         due("every -20", new RowBank().refresh(-20, 1), -1);
-        due("every 20 answers", new RowBank().refresh(20, 1), 0);
+        CHECKS.words("EVERY and DUE: 0. -1.");
+        due("the least of both", new RowBank().refresh(20, 1), 0);
+        due("the greatest of both", new RowBank().refresh(400, 8), 0);
+        due("neither", new RowBank().refresh(19, 0), -1);
         CHECKS.words("DUE (1 .. 8; 4 at first)");
         for (int every : new int[] {0, 20, 400}) range("due", 1, 8, d -> new RowBank().refresh(every, d));
     }
@@ -137,6 +140,10 @@ public final class CallEdgesTest {
         range("mask", 0, 255, mask -> new RowBank().mask(0, 0, 255, mask));
         CHECKS.words("A SWAP. -1, -2.");
         range("v", 0, 255, v -> new RowBank().swap(0, 0, v));
+        CHECKS.words("A FENCE. -1, -2.");
+        range("asker", 0, 3, asker -> new RowBank().fence(asker));
+        due("when 12 wait", Scenes.full().fence(3), -2);
+        due("no asker when 12 wait", Scenes.full().fence(4), -1);
     }
 
     private static void fullForAll() {
@@ -449,8 +456,8 @@ public final class CallEdgesTest {
     }
 
     private static void check() {
-        CHECKS.words("the first COMMAND that isn't behind the one before it in ticks, or breaks a RULE (by its TIME now);"
-            + " -2: none.");
+        CHECKS.words("THE LOG, with what was forged, from its beginning on: the first COMMAND that isn't behind the one before it"
+            + " in ticks, or breaks a RULE (by its TIME now); -2: none.");
         RowBank x = new RowBank();
         due("nothing in the log", x.check(), -2);
         due("broken", x.broken(), -2);
@@ -480,8 +487,8 @@ public final class CallEdgesTest {
     }
 
     private static void brokenIsTheLeast() {
-        CHECKS.words("the least RULE that was broken there; 13, if it isn't behind the one before, and broke none;"
-            + " -2: none, or there was no check().");
+        CHECKS.words("Of the latest check(): the least RULE that was broken there; 13, if it isn't behind the one before,"
+            + " and broke none; -2: none, or there was no check().");
         RowBank x = new RowBank();
         due("no check yet", x.broken(), -2);
         x.ask(0, 0);
@@ -515,7 +522,8 @@ public final class CallEdgesTest {
     // ---- 22 to 24
 
     private static void worst() {
-        CHECKS.words("-2: none was done yet. -1.");
+        CHECKS.words("The greatest number of ticks from one in which an ASK of an ASKER (FENCES aside) came to that in which it"
+            + " was done; -2: none was done yet. -1.");
         range("worst", 0, 3, asker -> new RowBank().worst(asker));
         RowBank x = Scenes.quick();
         for (int asker = 0; asker <= 3; asker++) due("none was done", x.worst(asker), -2);
@@ -567,7 +575,9 @@ public final class CallEdgesTest {
     }
 
     private static void count() {
-        CHECKS.words("8 .. 11 ASKS of ASKER 0 .. 3 (FENCES aside) that were done; -1 for others.");
+        CHECKS.words("0 the tick that is open, 1 ASKS that came, 2 that wait, 3 REFRESHES that are OWED, 4 REFRESHES that were"
+            + " done, 5 COMMANDS in all, 6 COMMANDS in THE LOG, 7 OPENS in all; 8 .. 11 ASKS of ASKER 0 .. 3 (FENCES aside)"
+            + " that were done; -1 for others.");
         range("count", 0, 11, what -> new RowBank().count(what));
         RowBank x = Scenes.quick();
         x.refresh(20, 8);

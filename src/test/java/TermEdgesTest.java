@@ -289,7 +289,7 @@ public final class TermEdgesTest {
     }
 
     private static void swapsAndAsks() {
-        CHECKS.words("3 SWAP (under WRITE: its answer is the byte ahead of that)");
+        CHECKS.words("3 SWAP (under WRITE: its answer is the byte ahead of that); 4 FENCE.");
         RowBank x = new RowBank();
         int[] vs = {255, 0, 255, 128};
         for (int v : vs) x.swap(0, 0, v);
@@ -297,7 +297,9 @@ public final class TermEdgesTest {
         for (int i = 0; i < 5; i++) due("not yet " + i, x.look(i, 5), -2);
         x.drain(500);
         int[] answers = {0, 255, 0, 255, 128};
-        for (int i = 0; i < 5; i++) due("answer " + i, x.look(i, 5), answers[i]);
+        for (int i = 0; i < 4; i++) due("answer " + i, x.look(i, 5), answers[i]);
+        CHECKS.words("KINDS: 0 ASK (its answer: the byte at its ADDRESS)");
+        due("answer of the ask", x.look(4, 5), answers[4]);
         CHECKS.words("An ASK is done by a READ, a WRITE by a WRITE of its PLACE.");
         for (int kind = 0; kind < 4; kind++) {
             RowBank y = new RowBank();

@@ -24,8 +24,10 @@ public final class TickEdgesTest {
         for (int d = 1; d <= 8; d++) dueIsReached(d);
         moreThanDue();
         oneIsOwedAndNoneWaits();
+        fencesBeforeTheCommand();
         leastBankThatCanBeShut();
         neitherCan();
+        byAllRules();
         theFirstThatCan();
         emptyTicks();
         firstFourHundredCommands();
@@ -433,6 +435,22 @@ public final class TickEdgesTest {
         due("nor behind its fence", x.next(), 0);
     }
 
+    /** A FENCE that is done at the beginning lets an ASK behind it go, and is done in a tick that refreshes, too. */
+    private static void fencesBeforeTheCommand() {
+        CHECKS.words("Then FENCES are done. Then one COMMAND at most goes");
+        RowBank x = Scenes.quick();
+        x.refresh(20, 8);
+        x.run(19);
+        x.fence(1);
+        due("fence", x.run(1), 1);
+        due("REFRESH in the same tick", x.log(0, 0), x.look(0, 4));
+        x.fence(1);
+        x.ask(1, 0);
+        due("fence", x.run(1), 1);
+        due("OPEN in the same tick", x.log(1, 0), x.look(1, 4));
+        due("one at most", x.count(5), 2);
+    }
+
     private static void leastBankThatCanBeShut() {
         CHECKS.words("else SHUT of the least BANK that can be SHUT");
         RowBank x = Scenes.quick();
@@ -484,6 +502,27 @@ public final class TickEdgesTest {
     }
 
     // ---- a tick: asks
+
+    /** Of two RULES now the one and now the other keeps a READ back longer. */
+    private static void byAllRules() {
+        CHECKS.words("(What can go: by all RULES.)");
+        int[][] times = {{2, 30}, {30, 1}, {15, 17}, {15, 16}, {16, 15}};
+        for (int[] t : times) {
+            RowBank x = Scenes.quick();
+            x.write(0, 16, 1);
+            x.run(1);
+            x.ask(0, 0);
+            x.run(2);
+            due("WRITE of bank 1 at 2, OPEN of bank 0", x.log(1, 0) * 10 + x.log(2, 0), 23);
+            x.time(0, t[0]);
+            x.time(8, t[1]);
+            int tick = Math.max(3 + t[0], 2 + t[1]);
+            due("soonest", x.soonest(2, 0), tick);
+            x.run(tick - x.count(0));
+            due("none sooner", x.count(5), 3);
+            due("it goes", x.run(1), 1);
+        }
+    }
 
     private static void theFirstThatCan() {
         CHECKS.words("Else of the ASKS by THE ORDER the first one that isn't HELD and whose NEXT can go: it goes.");
