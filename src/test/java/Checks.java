@@ -5,11 +5,32 @@ import java.nio.file.Path;
 /** Counts and prints the answers that are not as due. */
 final class Checks {
     private static final Path DOCUMENT = Path.of("../shared/DOC.md");
+    /** Far above what any test takes, some ten seconds. */
+    private static final long LONGEST_MILLISECONDS = 300_000;
 
     private int wrong = 0;
     private int asked = 0;
     private String document = null;
     private String quoted = "";
+
+    Checks() {
+        failIfEndless();
+    }
+
+    /** A call that doesn't end is a fault like any other: the test fails then, and doesn't hang. */
+    static void failIfEndless() {
+        Thread watch = new Thread(() -> {
+            try {
+                Thread.sleep(LONGEST_MILLISECONDS);
+            } catch (InterruptedException ended) {
+                return;
+            }
+            System.out.println("a call does not end, or the test takes far too long");
+            Runtime.getRuntime().halt(1);
+        });
+        watch.setDaemon(true);
+        watch.start();
+    }
 
     /** The document's own words that the next checks are about: so a test says which sentence was broken. */
     void words(String words) {

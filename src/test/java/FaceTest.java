@@ -1,10 +1,15 @@
+import java.io.IOException;
 import java.lang.reflect.Constructor;
 import java.lang.reflect.Field;
 import java.lang.reflect.Method;
 import java.lang.reflect.Modifier;
+import java.nio.file.Files;
+import java.nio.file.Path;
 import java.util.Arrays;
 import java.util.Set;
 import java.util.TreeSet;
+import java.util.regex.Matcher;
+import java.util.regex.Pattern;
 
 /** The public face is the document's, no more and no less, and no private method bears one of its names. */
 public final class FaceTest {
@@ -22,7 +27,7 @@ public final class FaceTest {
         CHECKS.holds(what, is);
     }
 
-    public static void main(String[] args) throws ReflectiveOperationException {
+    public static void main(String[] args) throws ReflectiveOperationException, IOException {
         int modifiers = RowBank.class.getModifiers();
         holds("public", Modifier.isPublic(modifiers));
         holds("final", Modifier.isFinal(modifiers));
@@ -31,6 +36,7 @@ public final class FaceTest {
         holds("public, with no arguments", Modifier.isPublic(constructors[0].getModifiers())
             && constructors[0].getParameterCount() == 0);
         Set<String> names = methods();
+        asTheDocumentHasIt();
         for (Class<?> inside : RowBank.class.getDeclaredClasses()) {
             holds(inside + " is static", Modifier.isStatic(inside.getModifiers()));
             holds(inside + " is not public", !Modifier.isPublic(inside.getModifiers()));
@@ -44,6 +50,17 @@ public final class FaceTest {
         holds("element's exceptions", Arrays.equals(thrown,
             new Class<?>[] {IllegalArgumentException.class, IllegalStateException.class}));
         CHECKS.end("FaceTest");
+    }
+
+    /** The list above is the document's own, which has the names of the numbers too. */
+    private static void asTheDocumentHasIt() throws IOException {
+        Set<String> written = new TreeSet<>();
+        Matcher line = Pattern.compile("(?m)^ {4}public (int|long) (\\w+)\\((.*?)\\)(?: throws [\\w, ]+)?;$")
+            .matcher(Files.readString(Path.of("../shared/DOC.md")));
+        while (line.find()) {
+            written.add(line.group(1) + " " + line.group(2) + "(" + line.group(3).replaceAll("(int|long) \\w+", "$1") + ")");
+        }
+        holds("the document's face " + written, written.equals(new TreeSet<>(Arrays.asList(FACE))));
     }
 
     private static Set<String> methods() {

@@ -17,6 +17,7 @@ public final class ReferenceTest {
     }
 
     public static void main(String[] args) {
+        Checks.failIfEndless();
         int wrong = 0;
         for (int seed = 0; seed < RUNS && wrong < 5; seed++) {
             if (!new ReferenceTest(seed).agrees(seed)) wrong++;
