@@ -4,9 +4,7 @@ import java.lang.reflect.Method;
 import java.lang.reflect.Modifier;
 import java.nio.file.Files;
 import java.nio.file.Path;
-import java.util.ArrayList;
 import java.util.HashMap;
-import java.util.List;
 import java.util.Map;
 import java.util.Set;
 import java.util.TreeSet;
@@ -58,14 +56,15 @@ public final class ReadmeTest {
     private void answers(String line, Matcher call) throws IllegalAccessException {
         String[] written = call.group(5).isEmpty() ? new String[0] : call.group(5).split(", ");
         Method method = find(call.group(4), written.length);
-        if (method == null) {
-            CHECKS.holds("a call of the face: " + line, false);
+        Object[] values = values(written);
+        if (method == null || values == null) {
+            CHECKS.holds("a call of the face, with numbers that are known: " + line, false);
             return;
         }
         SHOWN.add(method.getName());
         String got;
         try {
-            Object answer = method.invoke(objects.get(call.group(3)), values(written));
+            Object answer = method.invoke(objects.get(call.group(3)), values);
             keepNumber(line, call, method, ((Number) answer).longValue());
             got = answer.toString();
         } catch (InvocationTargetException thrown) {
@@ -87,13 +86,15 @@ public final class ReadmeTest {
         return null;
     }
 
+    /** Null, if one is neither written out nor a name of the block. */
     private Object[] values(String[] written) {
-        List<Object> values = new ArrayList<>();
-        for (String each : written) {
-            Long named = numbers.get(each);
-            values.add(named != null ? named.intValue() : Integer.parseInt(each));
+        Object[] values = new Object[written.length];
+        for (int i = 0; i < written.length; i++) {
+            Long named = numbers.get(written[i]);
+            if (named == null && !written[i].matches("-?\\d{1,9}")) return null;
+            values[i] = named != null ? named.intValue() : Integer.parseInt(written[i]);
         }
-        return values.toArray();
+        return values;
     }
 
     /** The table of tests names each one that is there, and none else. */
